@@ -12,6 +12,7 @@ public final class MemoryTest {
             nothingHangsOnEvery(n);
         }
         collectCountsEachOnce();
+        everySlotHolds();
         DUE.end();
     }
 
@@ -124,5 +125,22 @@ public final class MemoryTest {
         DUE.number("collect() with one that names nothing", 17, desk::collect);
         desk.make(0, 0, 0);
         DUE.number("collect() with one in its place", 17, desk::collect);
+    }
+
+    private static void everySlotHolds() {
+        MemoryDesk desk = new MemoryDesk();
+        desk.plain(0, 1, 0);
+        for (int s = 0; s < 32; s++) {
+            int held = s + 1;
+            desk.make(s, 0, 0);
+            DUE.number("collect() with " + held + " slots that hold one", 4 * held, desk::collect);
+        }
+        DUE.truth("memory(127)", false, () -> desk.memory(127));
+        DUE.truth("memory(128)", true, () -> desk.memory(128));
+        for (int s = 0; s < 32; s++) {
+            int left = 31 - s;
+            desk.drop(s);
+            DUE.number("collect() with " + left + " slots that hold one", 4 * left, desk::collect);
+        }
     }
 }

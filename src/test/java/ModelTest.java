@@ -1,3 +1,7 @@
+import java.lang.reflect.InvocationTargetException;
+import java.lang.reflect.Method;
+import java.util.Arrays;
+
 /**
  * Promises 1 to 17 together: long runs of calls, made up by a fixed rule, each call asked of the
  * program and of the model, whose answers must agree.
@@ -13,7 +17,10 @@ public final class ModelTest {
         "number", "size", "memory", "every", "collect",
     };
     /** How often each call is made, in the order of the names. */
-    private static final int[] OFTEN = {3, 3, 22, 7, 7, 4, 10, 10, 18, 8, 1, 4, 3, 3, 1, 6};
+    private static final int[] OFTEN = {1, 1, 14, 5, 3, 4, 10, 12, 26, 14, 1, 4, 3, 3, 1, 6};
+
+    private static final Method[] DESK = methodsOf(MemoryDesk.class);
+    private static final Method[] MODEL = methodsOf(Model.class);
 
     private long seed;
     private int slots;
@@ -21,7 +28,7 @@ public final class ModelTest {
     private int leastMemory;
     private int oddly;
 
-    public static void main(String[] args) {
+    public static void main(String[] args) throws IllegalAccessException {
         int wrong = 0;
         for (int run = 1; run <= RUNS && wrong < 10; run++) {
             wrong += new ModelTest().run(run) ? 0 : 1;
@@ -33,20 +40,20 @@ public final class ModelTest {
     }
 
     /** A run ends with its first wrong answer: those behind it tell nothing new. */
-    private boolean run(int number) {
+    private boolean run(int number) throws IllegalAccessException {
         seed = number * 0x9E3779B97F4A7C15L;
-        slots = 1 + below(32);
+        slots = below(4) == 0 ? 1 + below(32) : 2 + below(6);
         longest = below(20) == 0 ? 70000 : 2 + below(12);
         leastMemory = 16 + below(200);
         oddly = below(2) == 0 ? 40 : 300;
         MemoryDesk desk = new MemoryDesk();
         Model model = new Model();
         for (int call = 1; call <= CALLS; call++) {
-            int op = call <= 4 ? below(2) : anyCall();
+            int op = call <= 8 ? below(2) : anyCall();
             int[] a = arguments(op);
             long v = value();
-            String got = outcome(desk, null, op, a, v);
-            String want = outcome(null, model, op, a, v);
+            String got = outcome(desk, DESK[op], a, v);
+            String want = outcome(model, MODEL[op], a, v);
             if (!got.equals(want)) {
                 System.out.println("run " + number + ", call " + call + ": " + NAMES[op] + "(" + a[0] + ", "
                     + a[1] + ", " + a[2] + "; " + v + ") answered " + got + ", due is " + want);
@@ -82,10 +89,11 @@ public final class ModelTest {
             case "plain":
                 a[0] = below(6);
                 a[1] = below(17);
-                a[2] = below(1 << Math.min(16, a[1] + (below(10) == 0 ? 1 : 0)));
+                a[2] = anyMask(a[1] + (below(10) == 0 ? 1 : 0));
                 break;
             case "row":
                 a[0] = below(6);
+                a[1] = below(2) == 0 ? MemoryDesk.REFERENCES : a[1];
                 break;
             case "make":
                 a[1] = below(6);
@@ -99,7 +107,7 @@ public final class ModelTest {
                 a[0] = leastMemory + below(below(3) == 0 ? 65000 : 100);
                 break;
             default:
-                a[1] = below(3) == 0 ? below(longest) : below(4);
+                a[1] = below(6) == 0 ? below(longest) : below(3);
                 break;
         }
         if (below(oddly) == 0) {
@@ -108,58 +116,38 @@ public final class ModelTest {
         return a;
     }
 
+    /** Often with every bit, so that references are as common as other words. */
+    private int anyMask(int bits) {
+        int all = (1 << Math.min(16, bits)) - 1;
+        return below(3) == 0 ? all : below(all + 1);
+    }
+
     private long value() {
         long v = (long) below(1 << 30) << 34 ^ (long) below(1 << 30) << 17 ^ below(1 << 30);
         return v >> below(64);
     }
 
-    private static String outcome(MemoryDesk desk, Model model, int op, int[] a, long v) {
+    private static Method[] methodsOf(Class<?> type) {
+        Method[] methods = new Method[NAMES.length];
+        for (Method method : type.getDeclaredMethods()) {
+            int op = Arrays.asList(NAMES).indexOf(method.getName());
+            if (op >= 0) {
+                methods[op] = method;
+            }
+        }
+        return methods;
+    }
+
+    private static String outcome(Object asked, Method method, int[] a, long v) throws IllegalAccessException {
+        Class<?>[] types = method.getParameterTypes();
+        Object[] given = new Object[types.length];
+        for (int i = 0; i < given.length; i++) {
+            given[i] = types[i] == long.class ? (Object) v : (Object) a[i];
+        }
         try {
-            return desk != null ? ask(desk, op, a, v) : ask(model, op, a, v);
-        } catch (RuntimeException e) {
-            return e.getClass().getName();
-        }
-    }
-
-    private static String ask(MemoryDesk x, int op, int[] a, long v) {
-        switch (NAMES[op]) {
-            case "plain": x.plain(a[0], a[1], a[2]); return "done";
-            case "row": x.row(a[0], a[1]); return "done";
-            case "make": return "" + x.make(a[0], a[1], a[2]);
-            case "copy": return "" + x.copy(a[0], a[1]);
-            case "drop": return "" + x.drop(a[0]);
-            case "same": return "" + x.same(a[0], a[1]);
-            case "get": return "" + x.get(a[0], a[1]);
-            case "put": x.put(a[0], a[1], v); return "done";
-            case "link": return "" + x.link(a[0], a[1], a[2]);
-            case "follow": return "" + x.follow(a[0], a[1], a[2]);
-            case "keep": return "" + x.keep(a[0]);
-            case "number": return "" + x.number(a[0]);
-            case "size": return "" + x.size(a[0]);
-            case "memory": return "" + x.memory(a[0]);
-            case "every": x.every(a[0]); return "done";
-            default: return "" + x.collect();
-        }
-    }
-
-    private static String ask(Model x, int op, int[] a, long v) {
-        switch (NAMES[op]) {
-            case "plain": x.plain(a[0], a[1], a[2]); return "done";
-            case "row": x.row(a[0], a[1]); return "done";
-            case "make": return "" + x.make(a[0], a[1], a[2]);
-            case "copy": return "" + x.copy(a[0], a[1]);
-            case "drop": return "" + x.drop(a[0]);
-            case "same": return "" + x.same(a[0], a[1]);
-            case "get": return "" + x.get(a[0], a[1]);
-            case "put": x.put(a[0], a[1], v); return "done";
-            case "link": return "" + x.link(a[0], a[1], a[2]);
-            case "follow": return "" + x.follow(a[0], a[1], a[2]);
-            case "keep": return "" + x.keep(a[0]);
-            case "number": return "" + x.number(a[0]);
-            case "size": return "" + x.size(a[0]);
-            case "memory": return "" + x.memory(a[0]);
-            case "every": x.every(a[0]); return "done";
-            default: return "" + x.collect();
+            return String.valueOf(method.invoke(asked, given));
+        } catch (InvocationTargetException e) {
+            return e.getCause().getClass().getName();
         }
     }
 }
