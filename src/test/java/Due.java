@@ -1,70 +1,32 @@
-/** Holds the answers of calls against the ones that are due, and tells the calls that went wrong. */
+import java.util.function.Consumer;
+
+/** Holds answers against the ones that are due, sentence by sentence of the document. */
 final class Due {
-    static final Class<? extends Exception> ARGUMENT = IllegalArgumentException.class;
-    static final Class<? extends Exception> STATE = IllegalStateException.class;
-    static final Class<? extends Exception> INDEX = IndexOutOfBoundsException.class;
-    static final Class<? extends Exception> UNSUPPORTED = UnsupportedOperationException.class;
-
-    interface Call {
-        long answer();
-    }
-
-    interface Test {
-        boolean answer();
-    }
-
-    interface Act {
-        void run();
-    }
-
-    private int asked;
+    private int tests;
+    private int answers;
     private int wrong;
+    private String sentence;
 
-    void number(String call, long want, Call made) {
-        outcome(call, Long.toString(want), () -> Long.toString(made.answer()));
+    /** A test of what one sentence of the document says, or a part of it; it is given a run on a new desk. */
+    void says(String section, String quoted, Consumer<Run> test) {
+        tests++;
+        sentence = section + ", \"" + quoted + "\"";
+        test.accept(new Run(this));
     }
 
-    void truth(String call, boolean want, Test made) {
-        outcome(call, Boolean.toString(want), () -> Boolean.toString(made.answer()));
-    }
-
-    void done(String call, Act made) {
-        outcome(call, "done", () -> {
-            made.run();
-            return "done";
-        });
-    }
-
-    void refused(String call, Class<? extends Exception> want, Act made) {
-        outcome(call, want.getName(), () -> {
-            made.run();
-            return "done";
-        });
+    void answer(String call, String got, String want) {
+        answers++;
+        if (!got.equals(want)) {
+            wrong++;
+            System.out.println(sentence + ": " + call + " answered " + got + ", due is " + want);
+        }
     }
 
     /** Ends the test: with exit code 1 if an answer was not the one that is due. */
     void end() {
-        System.out.println(asked + " answers, " + wrong + " not as due");
-        if (wrong != 0 || asked == 0) {
+        System.out.println(tests + " tests, " + answers + " answers, " + wrong + " not as due");
+        if (wrong != 0 || answers == 0) {
             System.exit(1);
-        }
-    }
-
-    private interface Told {
-        String text();
-    }
-
-    private void outcome(String call, String want, Told made) {
-        String got;
-        try {
-            got = made.text();
-        } catch (RuntimeException e) {
-            got = e.getClass().getName();
-        }
-        asked++;
-        if (!got.equals(want)) {
-            wrong++;
-            System.out.println(call + " answered " + got + ", due is " + want);
         }
     }
 }

@@ -26,25 +26,44 @@ public final class FaceTest {
         "void row(int, int) IllegalArgumentException",
     };
 
+    private static final String CONSTANTS = "`REFERENCES = 0, OCTETS = 1, HALVES = 2, INTS = 3, LONGS = 4`";
+
     public static void main(String[] args) {
         Due due = new Due();
-        Class<?> desk = MemoryDesk.class;
-        due.truth("the class is public and final", true,
-            () -> Modifier.isPublic(desk.getModifiers()) && Modifier.isFinal(desk.getModifiers()));
-        due.truth("the methods are those of the document", true,
-            () -> openMethods(desk).equals(new TreeSet<>(Arrays.asList(FACE))));
-        due.truth("the constants are those of the document", true,
-            () -> openFields(desk).toString().equals("[HALVES, INTS, LONGS, OCTETS, REFERENCES]"));
-        due.number("constructors", 1, () -> desk.getDeclaredConstructors().length);
-        Constructor<?> made = desk.getDeclaredConstructors()[0];
-        due.truth("the constructor is public and takes nothing", true,
-            () -> Modifier.isPublic(made.getModifiers()) && made.getParameterCount() == 0);
-        due.number("REFERENCES", 0, () -> MemoryDesk.REFERENCES);
-        due.number("OCTETS", 1, () -> MemoryDesk.OCTETS);
-        due.number("HALVES", 2, () -> MemoryDesk.HALVES);
-        due.number("INTS", 3, () -> MemoryDesk.INTS);
-        due.number("LONGS", 4, () -> MemoryDesk.LONGS);
+        due.says("The public face", "public final class MemoryDesk", run -> classIsOpenAndFinal(due));
+        due.says("The public face", "public MemoryDesk();", run -> constructor(due));
+        due.says("The public face", "public int collect();", run -> methods(due));
+        due.says("Terms", CONSTANTS, run -> constants(due));
         due.end();
+    }
+
+    private static void classIsOpenAndFinal(Due due) {
+        int modifiers = MemoryDesk.class.getModifiers();
+        due.answer("the modifiers of the class", Modifier.toString(modifiers), "public final");
+        due.answer("the package", MemoryDesk.class.getPackageName(), "");
+    }
+
+    private static void constructor(Due due) {
+        Constructor<?>[] made = MemoryDesk.class.getDeclaredConstructors();
+        due.answer("the constructors", Arrays.toString(made), "[public MemoryDesk()]");
+    }
+
+    private static void methods(Due due) {
+        due.answer("the methods", openMethods(MemoryDesk.class).toString(), Arrays.toString(FACE));
+        for (Method method : MemoryDesk.class.getDeclaredMethods()) {
+            if (!Modifier.isPrivate(method.getModifiers())) {
+                due.answer("the modifiers of " + method.getName(), Modifier.toString(method.getModifiers()), "public");
+            }
+        }
+    }
+
+    private static void constants(Due due) {
+        String names = openFields(MemoryDesk.class).toString();
+        due.answer("the constants", names, "[HALVES, INTS, LONGS, OCTETS, REFERENCES]");
+        int[] values = {
+            MemoryDesk.REFERENCES, MemoryDesk.OCTETS, MemoryDesk.HALVES, MemoryDesk.INTS, MemoryDesk.LONGS,
+        };
+        due.answer("REFERENCES, OCTETS, HALVES, INTS, LONGS", Arrays.toString(values), "[0, 1, 2, 3, 4]");
     }
 
     private static TreeSet<String> openMethods(Class<?> desk) {

@@ -1,126 +1,141 @@
-/** Promises 1, 2 and 3: a new object, plain, row. */
+/** Promises 1, 2 and 3: a new object, plain and row. */
 public final class KindsTest {
-    private static final Due DUE = new Due();
-
     public static void main(String[] args) {
-        newDeskHasNothing();
-        desksShareNothing();
-        plainTakesItsNumbers();
-        plainRefuses();
-        rowTakesItsNumbers();
-        rowRefuses();
-        refusedKindStaysUndefined();
-        DUE.end();
+        Due due = new Due();
+        due.says("Promise 1", "No KINDS, no OBJECTS.", KindsTest::noKinds);
+        due.says("Promise 1", "No KINDS, no OBJECTS.", KindsTest::noObjects);
+        due.says("Promise 1", "No KINDS, no OBJECTS.", KindsTest::nothingOfAnotherDesk);
+        due.says("Promise 2", "KIND k is PLAIN.", KindsTest::kindIsPlain);
+        due.says("Promise 2", "IllegalArgumentException: words is not 0..16", KindsTest::wordsOutside);
+        due.says("Promise 2", "or the mask names others", KindsTest::maskOutside);
+        due.says("Promise 2", "k is defined already.", KindsTest::plainOverAKind);
+        due.says("Promise 3", "KIND k is a ROW.", KindsTest::kindIsARow);
+        due.says("Promise 3", "IllegalArgumentException: elements is not 0..4", KindsTest::elementsOutside);
+        due.says("Promise 3", "k is defined already.", KindsTest::rowOverAKind);
+        due.end();
     }
 
-    private static void newDeskHasNothing() {
-        MemoryDesk desk = new MemoryDesk();
-        DUE.number("collect() on a new desk", 0, desk::collect);
-        for (int k = 0; k < 16; k++) {
-            int kind = k;
-            DUE.refused("make(0, " + k + ", 0) on a new desk", Due.STATE, () -> desk.make(0, kind, 0));
+    private static void noKinds(Run run) {
+        for (int k = 0; k <= 15; k++) {
+            run.row("make(0, " + k + ", 0)", "IllegalStateException");
         }
-        for (int s = 0; s < 32; s++) {
-            int slot = s;
-            DUE.refused("size(" + s + ") on a new desk", Due.STATE, () -> desk.size(slot));
+    }
+
+    private static void noObjects(Run run) {
+        for (int s = 0; s <= 31; s++) {
+            run.row("size(" + s + ")", "IllegalStateException");
+            run.row("drop(" + s + ")", false);
         }
-        DUE.truth("same(0, 31) on a new desk", true, () -> desk.same(0, 31));
+        run.rows(
+            "same(0, 31) -> true",
+            "collect() -> 0",
+            "plain(0, 1, 0) -> done",
+            "make(0, 0, 0) -> 1",
+            "keep(0) -> 1",
+            "number(0) -> 1");
     }
 
-    private static void desksShareNothing() {
-        MemoryDesk first = new MemoryDesk();
-        MemoryDesk second = new MemoryDesk();
-        DUE.done("plain(0, 1, 0) on the first", () -> first.plain(0, 1, 0));
-        DUE.number("make(0, 0, 0) on the first", 1, () -> first.make(0, 0, 0));
-        DUE.number("number(0) on the first", 1, () -> first.number(0));
-        DUE.number("keep(0) on the first", 1, () -> first.keep(0));
-        DUE.refused("make(0, 0, 0) on the second", Due.STATE, () -> second.make(0, 0, 0));
-        DUE.done("plain(0, 2, 0) on the second", () -> second.plain(0, 2, 0));
-        DUE.number("make(0, 0, 0) on the second", 1, () -> second.make(0, 0, 0));
-        DUE.number("number(0) on the second", 1, () -> second.number(0));
-        DUE.number("keep(0) on the second", 1, () -> second.keep(0));
-        DUE.number("collect() on the first", 4, first::collect);
-        DUE.number("collect() on the second", 5, second::collect);
+    private static void nothingOfAnotherDesk(Run run) {
+        run.rows(
+            "plain(0, 1, 0) -> done", "memory(20) -> true", "make(0, 0, 0) -> 1",
+            "number(0) -> 1", "keep(0) -> 1", "collect() -> 4");
+        run.anew().rows(
+            "make(0, 0, 0) -> IllegalStateException", "size(0) -> IllegalStateException",
+            "plain(0, 16, 0) -> done", "make(0, 0, 0) -> 1", "make(1, 0, 0) -> 2",
+            "number(1) -> 1", "keep(1) -> 1", "collect() -> 38");
+        run.rows("size(0) -> 1", "collect() -> 4");
     }
 
-    private static void plainTakesItsNumbers() {
-        MemoryDesk desk = new MemoryDesk();
-        DUE.done("plain(0, 0, 0)", () -> desk.plain(0, 0, 0));
-        DUE.done("plain(15, 16, 0xFFFF)", () -> desk.plain(15, 16, 0xFFFF));
-        DUE.done("plain(7, 16, 0x8001)", () -> desk.plain(7, 16, 0x8001));
-        DUE.number("make(0, 0, 0)", 1, () -> desk.make(0, 0, 0));
-        DUE.number("size(0)", 0, () -> desk.size(0));
-        DUE.number("collect() with no words", 3, desk::collect);
-        DUE.number("make(1, 7, 0)", 2, () -> desk.make(1, 7, 0));
-        DUE.number("collect() with 16 words more", 22, desk::collect);
-        for (int k = 0; k < 16; k++) {
-            int word = k;
-            if (k == 0 || k == 15) {
-                DUE.refused("get(1, " + k + ")", Due.UNSUPPORTED, () -> desk.get(1, word));
-                DUE.truth("follow(1, " + k + ", 9)", false, () -> desk.follow(1, word, 9));
-            } else {
-                DUE.number("get(1, " + k + ")", 0, () -> desk.get(1, word));
-                DUE.refused("follow(1, " + k + ", 9)", Due.UNSUPPORTED, () -> desk.follow(1, word, 9));
+    private static void kindIsPlain(Run run) {
+        run.rows(
+            "plain(3, 3, 2) -> done", "make(0, 3, 0) -> 1", "size(0) -> 3",
+            "get(0, 0) -> 0", "get(0, 1) -> UnsupportedOperationException", "get(0, 2) -> 0",
+            "follow(0, 0, 9) -> UnsupportedOperationException", "follow(0, 1, 9) -> false",
+            "follow(0, 2, 9) -> UnsupportedOperationException", "collect() -> 6");
+    }
+
+    private static void wordsOutside(Run run) {
+        run.rows(
+            "plain(0, -1, 0) -> IllegalArgumentException",
+            "plain(0, 17, 0) -> IllegalArgumentException",
+            "plain(0, 17, 0x1FFFF) -> IllegalArgumentException",
+            "plain(0, 32, 0) -> IllegalArgumentException",
+            "plain(0, 33, 1) -> IllegalArgumentException",
+            "plain(0, -16, 0) -> IllegalArgumentException",
+            "plain(0, -2147483648, 0) -> IllegalArgumentException",
+            "plain(0, 2147483647, 0) -> IllegalArgumentException",
+            "make(0, 0, 0) -> IllegalStateException",
+            "plain(0, 0, 0) -> done", "make(0, 0, 0) -> 1", "size(0) -> 0",
+            "plain(1, 1, 0) -> done", "make(0, 1, 0) -> 2", "size(0) -> 1",
+            "plain(2, 15, 0) -> done", "make(0, 2, 0) -> 3", "size(0) -> 15",
+            "plain(3, 16, 0) -> done", "make(0, 3, 0) -> 4", "size(0) -> 16");
+    }
+
+    private static void maskOutside(Run first) {
+        for (int words = 0; words <= 16; words++) {
+            Run run = first.anew();
+            String start = "plain(0, " + words + ", ";
+            for (int bit = words; bit <= 31; bit++) {
+                run.row(start + (1 << bit) + ")", "IllegalArgumentException");
+            }
+            int all = (1 << words) - 1;
+            run.row(start + ((2 << words) - 1) + ")", "IllegalArgumentException");
+            run.row(start + "-1)", "IllegalArgumentException");
+            run.row("make(0, 0, 0)", "IllegalStateException");
+            run.row(start + all + ")", "done");
+            run.row("make(0, 0, 0)", 1);
+            for (int k = 0; k < words; k++) {
+                run.row("link(0, " + k + ", 0)", false);
             }
         }
     }
 
-    private static void plainRefuses() {
-        MemoryDesk desk = new MemoryDesk();
-        int[][] wrong = {
-            {-1, 1, 0}, {16, 1, 0}, {Integer.MIN_VALUE, 1, 0}, {Integer.MAX_VALUE, 1, 0},
-            {0, -1, 0}, {0, 17, 0}, {0, Integer.MIN_VALUE, 0}, {0, Integer.MAX_VALUE, 0}, {0, 32, 0},
-            {0, 0, 1}, {0, 2, 4}, {0, 3, 15}, {0, 16, 0x10000}, {0, 16, -1}, {0, 5, Integer.MIN_VALUE},
-        };
-        for (int[] w : wrong) {
-            DUE.refused("plain(" + w[0] + ", " + w[1] + ", " + w[2] + ")", Due.ARGUMENT,
-                () -> desk.plain(w[0], w[1], w[2]));
-        }
-        DUE.done("plain(3, 2, 1)", () -> desk.plain(3, 2, 1));
-        DUE.done("row(4, 3)", () -> desk.row(4, 3));
-        DUE.refused("plain(3, 2, 1) again", Due.ARGUMENT, () -> desk.plain(3, 2, 1));
-        DUE.refused("plain(4, 2, 1) after row", Due.ARGUMENT, () -> desk.plain(4, 2, 1));
+    private static void plainOverAKind(Run run) {
+        run.rows(
+            "plain(3, 2, 1) -> done", "row(4, 4) -> done",
+            "plain(3, 2, 1) -> IllegalArgumentException", "plain(3, 5, 0) -> IllegalArgumentException",
+            "plain(4, 2, 1) -> IllegalArgumentException",
+            "make(0, 3, 0) -> 1", "make(1, 4, 3) -> 2",
+            "plain(3, 5, 0) -> IllegalArgumentException", "plain(4, 5, 0) -> IllegalArgumentException",
+            "size(0) -> 2", "get(0, 0) -> UnsupportedOperationException", "get(0, 1) -> 0", "size(1) -> 3",
+            "drop(0) -> true", "drop(1) -> true", "collect() -> 0",
+            "plain(3, 5, 0) -> IllegalArgumentException", "plain(4, 5, 0) -> IllegalArgumentException",
+            "make(0, 3, 0) -> 3", "size(0) -> 2", "make(1, 4, 3) -> 4", "size(1) -> 3", "collect() -> 15");
     }
 
-    private static void rowTakesItsNumbers() {
-        MemoryDesk desk = new MemoryDesk();
+    private static void kindIsARow(Run run) {
+        run.rows(
+            "row(3, 3) -> done", "make(0, 3, 7) -> 1", "size(0) -> 7", "make(1, 3, 2) -> 2", "size(1) -> 2",
+            "get(0, 6) -> 0", "follow(0, 6, 9) -> UnsupportedOperationException",
+            "row(4, 0) -> done", "make(0, 4, 7) -> 3", "size(0) -> 7",
+            "get(0, 6) -> UnsupportedOperationException", "follow(0, 6, 9) -> false");
+    }
+
+    private static void elementsOutside(Run run) {
+        run.rows(
+            "row(0, -1) -> IllegalArgumentException",
+            "row(0, 5) -> IllegalArgumentException",
+            "row(0, 8) -> IllegalArgumentException",
+            "row(0, -2147483648) -> IllegalArgumentException",
+            "row(0, 2147483647) -> IllegalArgumentException",
+            "make(0, 0, 0) -> IllegalStateException");
         for (int elements = 0; elements <= 4; elements++) {
-            int e = elements;
-            DUE.done("row(" + (e + 11) + ", " + e + ")", () -> desk.row(e + 11, e));
-            DUE.number("make(" + e + ", " + (e + 11) + ", 1)", e + 1, () -> desk.make(e, e + 11, 1));
-        }
-        DUE.refused("get(0, 0) of references", Due.UNSUPPORTED, () -> desk.get(0, 0));
-        DUE.truth("link(0, 0, 0) of references", false, () -> desk.link(0, 0, 0));
-        for (int s = 1; s <= 4; s++) {
-            int slot = s;
-            DUE.number("get(" + s + ", 0)", 0, () -> desk.get(slot, 0));
-            DUE.refused("link(" + s + ", 0, 0)", Due.UNSUPPORTED, () -> desk.link(slot, 0, 0));
+            run.row("row(" + elements + ", " + elements + ")", "done");
+            run.row("make(0, " + elements + ", 1)", elements + 1);
+            run.row("size(0)", 1);
         }
     }
 
-    private static void rowRefuses() {
-        MemoryDesk desk = new MemoryDesk();
-        int[][] wrong = {
-            {-1, 0}, {16, 0}, {Integer.MIN_VALUE, 0}, {Integer.MAX_VALUE, 0},
-            {0, -1}, {0, 5}, {0, Integer.MIN_VALUE}, {0, Integer.MAX_VALUE},
-        };
-        for (int[] w : wrong) {
-            DUE.refused("row(" + w[0] + ", " + w[1] + ")", Due.ARGUMENT, () -> desk.row(w[0], w[1]));
-        }
-        DUE.done("row(3, 1)", () -> desk.row(3, 1));
-        DUE.done("plain(4, 1, 1)", () -> desk.plain(4, 1, 1));
-        DUE.refused("row(3, 1) again", Due.ARGUMENT, () -> desk.row(3, 1));
-        DUE.refused("row(4, 1) after plain", Due.ARGUMENT, () -> desk.row(4, 1));
-    }
-
-    private static void refusedKindStaysUndefined() {
-        MemoryDesk desk = new MemoryDesk();
-        DUE.refused("plain(0, 2, 4)", Due.ARGUMENT, () -> desk.plain(0, 2, 4));
-        DUE.refused("row(0, 5)", Due.ARGUMENT, () -> desk.row(0, 5));
-        DUE.refused("make(0, 0, 0)", Due.STATE, () -> desk.make(0, 0, 0));
-        DUE.done("row(0, 4)", () -> desk.row(0, 4));
-        DUE.refused("plain(0, 1, 0)", Due.ARGUMENT, () -> desk.plain(0, 1, 0));
-        DUE.number("make(0, 0, 2)", 1, () -> desk.make(0, 0, 2));
-        DUE.number("collect() shows that kind 0 is still the row", 8, desk::collect);
+    private static void rowOverAKind(Run run) {
+        run.rows(
+            "row(3, 1) -> done", "plain(4, 3, 1) -> done",
+            "row(3, 1) -> IllegalArgumentException", "row(3, 0) -> IllegalArgumentException",
+            "row(4, 1) -> IllegalArgumentException",
+            "make(0, 3, 8) -> 1", "make(1, 4, 8) -> 2",
+            "row(3, 4) -> IllegalArgumentException", "row(4, 4) -> IllegalArgumentException",
+            "size(0) -> 8", "put(0, 7, 255) -> done", "get(0, 7) -> -1", "size(1) -> 3",
+            "drop(0) -> true", "drop(1) -> true", "collect() -> 0",
+            "row(3, 4) -> IllegalArgumentException", "row(4, 4) -> IllegalArgumentException",
+            "make(0, 3, 8) -> 3", "make(1, 4, 8) -> 4", "size(1) -> 3", "collect() -> 12");
     }
 }

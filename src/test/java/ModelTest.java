@@ -1,7 +1,3 @@
-import java.lang.reflect.InvocationTargetException;
-import java.lang.reflect.Method;
-import java.util.Arrays;
-
 /**
  * Promises 1 to 17 together: long runs of calls, made up by a fixed rule, each call asked of the
  * program and of the model, whose answers must agree.
@@ -19,16 +15,13 @@ public final class ModelTest {
     /** How often each call is made, in the order of the names. */
     private static final int[] OFTEN = {1, 1, 14, 5, 3, 4, 10, 12, 26, 14, 1, 4, 3, 3, 1, 6};
 
-    private static final Method[] DESK = methodsOf(MemoryDesk.class);
-    private static final Method[] MODEL = methodsOf(Model.class);
-
     private long seed;
     private int slots;
     private int longest;
     private int leastMemory;
     private int oddly;
 
-    public static void main(String[] args) throws IllegalAccessException {
+    public static void main(String[] args) {
         int wrong = 0;
         for (int run = 1; run <= RUNS && wrong < 10; run++) {
             wrong += new ModelTest().run(run) ? 0 : 1;
@@ -40,7 +33,7 @@ public final class ModelTest {
     }
 
     /** A run ends with its first wrong answer: those behind it tell nothing new. */
-    private boolean run(int number) throws IllegalAccessException {
+    private boolean run(int number) {
         seed = number * 0x9E3779B97F4A7C15L;
         slots = below(4) == 0 ? 1 + below(32) : 2 + below(6);
         longest = below(20) == 0 ? 70000 : 2 + below(12);
@@ -48,15 +41,13 @@ public final class ModelTest {
         oddly = below(2) == 0 ? 40 : 300;
         MemoryDesk desk = new MemoryDesk();
         Model model = new Model();
-        for (int call = 1; call <= CALLS; call++) {
-            int op = call <= 8 ? below(2) : anyCall();
-            int[] a = arguments(op);
-            long v = value();
-            String got = outcome(desk, DESK[op], a, v);
-            String want = outcome(model, MODEL[op], a, v);
+        for (int turn = 1; turn <= CALLS; turn++) {
+            Call call = oddAtTimes(anyCall(turn <= 8 ? NAMES[below(2)] : anyName()));
+            String got = call.on(desk);
+            String want = call.on(model);
             if (!got.equals(want)) {
-                System.out.println("run " + number + ", call " + call + ": " + NAMES[op] + "(" + a[0] + ", "
-                    + a[1] + ", " + a[2] + "; " + v + ") answered " + got + ", due is " + want);
+                System.out.println(
+                    "run " + number + ", call " + turn + ": " + call + " answered " + got + ", due is " + want);
                 return false;
             }
         }
@@ -68,52 +59,67 @@ public final class ModelTest {
         return (int) ((seed >>> 33) % bound);
     }
 
-    private int anyCall() {
+    private String anyName() {
         int sum = 0;
         for (int often : OFTEN) {
             sum += often;
         }
         int left = below(sum);
-        for (int op = 0; op < OFTEN.length; op++) {
+        int op = 0;
+        while (left >= OFTEN[op]) {
             left -= OFTEN[op];
-            if (left < 0) {
-                return op;
-            }
+            op++;
         }
-        return 0;
+        return NAMES[op];
     }
 
-    private int[] arguments(int op) {
-        int[] a = {below(slots), below(5), below(slots)};
-        switch (NAMES[op]) {
+    private Call anyCall(String name) {
+        switch (name) {
             case "plain":
-                a[0] = below(6);
-                a[1] = below(17);
-                a[2] = anyMask(a[1] + (below(10) == 0 ? 1 : 0));
-                break;
+                int words = below(17);
+                return new Call(name, anyKind(), words, anyMask(words + (below(10) == 0 ? 1 : 0)));
             case "row":
-                a[0] = below(6);
-                a[1] = below(2) == 0 ? MemoryDesk.REFERENCES : a[1];
-                break;
+                return new Call(name, anyKind(), below(2) == 0 ? MemoryDesk.REFERENCES : below(5));
             case "make":
-                a[1] = below(6);
-                a[2] = below(longest) - (below(10) == 0 ? 1 : 0);
-                break;
+                return new Call(name, anySlot(), anyKind(), below(longest) - (below(10) == 0 ? 1 : 0));
             case "copy":
             case "same":
-                a[1] = below(slots);
-                break;
+                return new Call(name, anySlot(), anySlot());
+            case "get":
+                return new Call(name, anySlot(), anyPlace());
+            case "put":
+                return new Call(name, anySlot(), anyPlace(), anyValue());
+            case "link":
+            case "follow":
+                return new Call(name, anySlot(), anyPlace(), anySlot());
             case "memory":
-                a[0] = leastMemory + below(below(3) == 0 ? 65000 : 100);
-                break;
+                return new Call(name, leastMemory + below(below(3) == 0 ? 65000 : 100));
+            case "every":
+                return new Call(name, below(6));
+            case "collect":
+                return new Call(name);
             default:
-                a[1] = below(6) == 0 ? below(longest) : below(3);
-                break;
+                return new Call(name, anySlot());
         }
-        if (below(oddly) == 0) {
-            a[below(3)] = ODD[below(ODD.length)];
+    }
+
+    private Call oddAtTimes(Call call) {
+        if (call.arguments.length > 0 && below(oddly) == 0) {
+            call.arguments[below(call.arguments.length)] = ODD[below(ODD.length)];
         }
-        return a;
+        return call;
+    }
+
+    private int anyKind() {
+        return below(6);
+    }
+
+    private int anySlot() {
+        return below(slots);
+    }
+
+    private int anyPlace() {
+        return below(6) == 0 ? below(longest) : below(3);
     }
 
     /** Often with every bit, so that references are as common as other words. */
@@ -122,32 +128,8 @@ public final class ModelTest {
         return below(3) == 0 ? all : below(all + 1);
     }
 
-    private long value() {
+    private long anyValue() {
         long v = (long) below(1 << 30) << 34 ^ (long) below(1 << 30) << 17 ^ below(1 << 30);
         return v >> below(64);
-    }
-
-    private static Method[] methodsOf(Class<?> type) {
-        Method[] methods = new Method[NAMES.length];
-        for (Method method : type.getDeclaredMethods()) {
-            int op = Arrays.asList(NAMES).indexOf(method.getName());
-            if (op >= 0) {
-                methods[op] = method;
-            }
-        }
-        return methods;
-    }
-
-    private static String outcome(Object asked, Method method, int[] a, long v) throws IllegalAccessException {
-        Class<?>[] types = method.getParameterTypes();
-        Object[] given = new Object[types.length];
-        for (int i = 0; i < given.length; i++) {
-            given[i] = types[i] == long.class ? (Object) v : (Object) a[i];
-        }
-        try {
-            return String.valueOf(method.invoke(asked, given));
-        } catch (InvocationTargetException e) {
-            return e.getCause().getClass().getName();
-        }
     }
 }
