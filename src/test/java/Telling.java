@@ -2,8 +2,9 @@ import java.util.ArrayList;
 import java.util.List;
 
 /**
- * All that later calls tell of a desk: what each slot holds and what is in it, the room that is
- * left, the kinds, what is kept and how many were made, kept and numbered. The desk is used up.
+ * What later calls tell of a desk: what each slot holds and what is in it, the room that is left,
+ * the kinds, what is kept and how many were made, kept and numbered. Of many slots, kinds or places
+ * only some are looked into, since a desk has 512 calls. The desk is used up.
  */
 final class Telling {
     private static final int SLOTS = 32;
@@ -61,7 +62,7 @@ final class Telling {
         ask("collect");
     }
 
-    /** The first places and the last: runs write to no others before a call that throws. */
+    /** The first places and the last: all of them would take more calls than the run leaves. */
     private void tellPlaces(int s, long size) {
         for (long k = 0; k < size; k++) {
             if (k < FIRST_PLACES || k == size - 1) {
