@@ -10,6 +10,8 @@ public final class RefusedTest {
         due.says("Terms", NOTHING, RefusedTest::referencesStay);
         due.says("Terms", NOTHING, RefusedTest::countsStay);
         due.says("Terms", NOTHING, RefusedTest::memoryStays);
+        due.says("Terms", NOTHING, RefusedTest::everySlotStays);
+        due.says("Terms", NOTHING, RefusedTest::everyKindStays);
         due.says("Terms", "but that what is not REACHABLE may be gone.", RefusedTest::onlyTheUnreachableGoes);
         due.end();
     }
@@ -110,6 +112,51 @@ public final class RefusedTest {
             "memory(15)", "memory(0)", "memory(-1)", "memory(65537)", "memory(2147483647)", "memory(-2147483648)");
         run.row("memory(54)", false);
         tellsAllAsBefore(run);
+    }
+
+    /**
+     * All 16 kinds, each with two references of its own among 16 words; all 32 slots hold one, with a
+     * number in it, that names the next; they take all words.
+     */
+    private static Run full(Run run) {
+        for (int k = 0; k <= 15; k++) {
+            run.row("plain(" + k + ", 16, " + (1 << k | 1 << 15 - k) + ")", "done");
+        }
+        for (int s = 0; s <= 31; s++) {
+            run.row("make(" + s + ", " + s % 16 + ", 0)", s + 1);
+            run.row("put(" + s + ", " + (s + 2) % 16 + ", " + (s + 100) + ")", "done");
+        }
+        for (int s = 0; s <= 31; s++) {
+            run.row("link(" + s + ", " + s % 16 + ", " + (s + 1) % 32 + ")", false);
+        }
+        return run.row("memory(607)", false).row("memory(608)", true);
+    }
+
+    private static void everySlotStays(Run run) {
+        full(run);
+        run.each("IllegalArgumentException",
+            "make(32, 0, 0)", "make(0, 16, 0)", "copy(9, 32)", "copy(-1, 9)", "drop(32)", "same(9, 32)", "get(32, 0)",
+            "put(-1, 0, 9)", "link(9, 9, 32)", "follow(9, 9, 32)", "keep(32)", "number(-1)", "size(32)",
+            "memory(15)", "memory(65537)", "every(-1)");
+        run.each("IndexOutOfBoundsException", "get(5, 16)", "put(31, 16, 9)", "link(9, -1, 3)", "follow(20, 16, 7)");
+        run.each("UnsupportedOperationException",
+            "make(0, 0, 0)", "make(20, 4, 0)", "make(31, 15, 0)", "get(15, 0)", "put(31, 15, 9)", "link(20, 6, 3)",
+            "follow(9, 11, 31)");
+        run.rows("drop(17) -> true", "link(16, 0, 17) -> true", "collect() -> 589");
+        run.each("IllegalStateException",
+            "get(17, 0)", "put(17, 3, 9)", "link(17, 1, 31)", "follow(17, 1, 31)", "keep(17)", "number(17)",
+            "size(17)");
+    }
+
+    private static void everyKindStays(Run run) {
+        full(run);
+        for (int k = 0; k <= 15; k++) {
+            run.row("plain(" + k + ", 16, 0)", "IllegalArgumentException");
+            run.row("row(" + k + ", 0)", "IllegalArgumentException");
+        }
+        run.each("IllegalArgumentException",
+            "plain(16, 16, 0)", "plain(-1, 16, 0)", "plain(3, 17, 0)", "plain(15, 16, 65536)", "row(16, 4)",
+            "row(-1, 4)", "row(8, 5)");
     }
 
     /** A make that throws may look for room first: what it then lets go must be out of reach. */

@@ -60,18 +60,16 @@ final class Run {
     }
 
     private void checkThatNothingChanges(Call refused) {
-        MemoryDesk without = again();
-        MemoryDesk with = again();
-        refused.on(with);
-        String[] want = Telling.of(without, MOST_CALLS - done.size() - 1);
-        String[] got = Telling.of(with, MOST_CALLS - done.size() - 1);
-        for (int i = 0; i < want.length; i++) {
-            if (i >= got.length || !got[i].equals(want[i])) {
-                due.answer("a call behind " + refused, i < got.length ? got[i] : "nothing", want[i]);
+        int callsLeft = MOST_CALLS - done.size() - 1;
+        List<String> want = Telling.of(this::again, callsLeft, refused);
+        List<String> got = Telling.of(() -> againWith(refused), callsLeft, refused);
+        for (int i = 0; i < want.size(); i++) {
+            if (i >= got.size() || !got.get(i).equals(want.get(i))) {
+                due.answer("a call behind " + refused, i < got.size() ? got.get(i) : "nothing", want.get(i));
                 return;
             }
         }
-        due.answer("all behind " + refused, got.length + " answers", want.length + " answers");
+        due.answer("all behind " + refused, got.size() + " answers", want.size() + " answers");
     }
 
     private MemoryDesk again() {
@@ -79,6 +77,12 @@ final class Run {
         for (Call call : done) {
             call.on(other);
         }
+        return other;
+    }
+
+    private MemoryDesk againWith(Call refused) {
+        MemoryDesk other = again();
+        refused.on(other);
         return other;
     }
 }

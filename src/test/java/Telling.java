@@ -1,42 +1,56 @@
 import java.util.ArrayList;
 import java.util.List;
+import java.util.function.Supplier;
 
 /**
- * What later calls tell of a desk: what each slot holds and what is in it, the room that is left,
- * the kinds, what is kept and how many were made, kept and numbered. Of many slots, kinds or places
- * only some are looked into, since a desk has 512 calls. The desk is used up.
+ * What later calls tell of a desk: what each slot holds, what is in it and what that names, the room
+ * that is left, the kinds, what is kept and how many were made, kept and numbered. A desk has 512
+ * calls, so the questions go to as many desks as they need, all with the same calls behind them.
  */
 final class Telling {
     private static final int SLOTS = 32;
     private static final int KINDS = 16;
-    /** What the telling makes and follows goes here: what it held is told first. */
     private static final int SPARE = 31;
     private static final int OWN_KIND = 15;
-    private static final int OPENED_SLOTS = 6;
-    private static final int OPENED_KINDS = 4;
-    private static final int FIRST_PLACES = 3;
+    private static final int FIRST_PLACES = 64;
 
-    private final MemoryDesk desk;
+    /** The most calls that must go to one desk: for a place, and for a kind of 16 words. */
+    private static final int CALLS_OF_A_PLACE = 4;
+    private static final int CALLS_OF_A_KIND = 35;
+
+    private final Supplier<MemoryDesk> desks;
+    private final int callsOfEach;
+    private final Call asked;
     private final List<String> told = new ArrayList<>();
+    private MemoryDesk desk;
+    private int left;
 
-    private Telling(MemoryDesk desk) {
-        this.desk = desk;
+    private Telling(Supplier<MemoryDesk> desks, int callsOfEach, Call asked) {
+        this.desks = desks;
+        this.callsOfEach = callsOfEach;
+        this.asked = asked;
     }
 
-    static String[] of(MemoryDesk desk, int mostCalls) {
-        Telling telling = new Telling(desk);
+    /** What desks tell that can be asked so many calls each; the place that a call asked for is among it. */
+    static List<String> of(Supplier<MemoryDesk> desks, int callsOfEach, Call asked) {
+        Telling telling = new Telling(desks, callsOfEach, asked);
         telling.tellSlots();
         telling.tellRoom();
-        telling.tellKept();
         telling.tellKinds();
-        telling.tellHowManyAreKept();
-        if (telling.told.size() > mostCalls) {
-            throw new IllegalStateException("the run leaves too few calls: " + mostCalls);
-        }
-        return telling.told.toArray(new String[0]);
+        telling.tellKept();
+        return telling.told;
+    }
+
+    private void takeDesk() {
+        desk = desks.get();
+        left = callsOfEach;
     }
 
     private String ask(String name, long... arguments) {
+        if (left == 0) {
+            throw new IllegalStateException("the run leaves too few calls: " + callsOfEach);
+        }
+        left--;
         Call call = new Call(name, arguments);
         String answer = call.on(desk);
         told.add(call + " -> " + answer);
@@ -48,40 +62,64 @@ final class Telling {
     }
 
     private void tellSlots() {
-        int opened = 0;
-        for (int s = SLOTS - 1; s >= 0; s--) {
+        takeDesk();
+        long[] sizes = new long[SLOTS];
+        for (int s = 0; s < SLOTS; s++) {
             String size = ask("size", s);
-            if (isNumber(size)) {
-                ask("number", s);
-            }
-            if (isNumber(size) && s != SPARE && opened < OPENED_SLOTS) {
-                opened++;
-                tellPlaces(s, Long.parseLong(size));
-            }
+            sizes[s] = isNumber(size) ? Long.parseLong(size) : 0;
         }
         ask("collect");
+        for (int s = 0; s < SLOTS; s++) {
+            if (sizes[s] > 0) {
+                tellPlaces(s, sizes[s]);
+            }
+        }
     }
 
-    /** The first places and the last: all of them would take more calls than the run leaves. */
+    /** Of a row of many places the first, the last and the one that was asked for. */
     private void tellPlaces(int s, long size) {
-        for (long k = 0; k < size; k++) {
-            if (k < FIRST_PLACES || k == size - 1) {
-                tellPlace(s, k);
-            }
+        takeNumberedDesk();
+        for (long k = 0; k < Math.min(size, FIRST_PLACES); k++) {
+            tellPlace(s, k);
+        }
+        if (size > FIRST_PLACES) {
+            tellPlace(s, size - 1);
+            tellAskedPlace(s, size);
+        }
+    }
+
+    private void tellAskedPlace(int s, long size) {
+        long k = asked.arguments.length > 1 ? asked.arguments[1] : 0;
+        if (k >= FIRST_PLACES && k < size) {
+            tellPlace(s, k);
+        }
+    }
+
+    /** Each slot's object has its number, so that the number of what a place names tells which it is. */
+    private void takeNumberedDesk() {
+        takeDesk();
+        for (int s = 0; s < SLOTS; s++) {
+            ask("number", s);
         }
     }
 
     private void tellPlace(int s, long k) {
+        if (left < CALLS_OF_A_PLACE) {
+            takeNumberedDesk();
+        }
+        int spare = s == SPARE ? SPARE - 1 : SPARE;
         boolean isValue = isNumber(ask("get", s, k));
-        if (!isValue && ask("follow", s, k, SPARE).equals("true")) {
-            ask("number", SPARE);
+        if (!isValue && ask("follow", s, k, spare).equals("true")) {
+            ask("number", spare);
+            ask("size", spare);
         }
     }
 
     /** The longest row that can be made, by halving. */
     private void tellRoom() {
-        ask("drop", SPARE);
+        takeDesk();
         ask("row", OWN_KIND, MemoryDesk.INTS);
+        ask("drop", SPARE);
         int fits = -1;
         int tooLong = 65536;
         while (tooLong - fits > 1) {
@@ -96,31 +134,41 @@ final class Telling {
     }
 
     private void tellKinds() {
-        ask("memory", 65536);
-        int opened = 0;
+        takeEmptiedDesk();
         for (int kind = 0; kind < KINDS; kind++) {
-            if (!isNumber(ask("make", SPARE, kind, 1))) {
-                continue;
+            if (left < CALLS_OF_A_KIND) {
+                takeEmptiedDesk();
             }
-            long size = Long.parseLong(ask("size", SPARE));
-            ask("collect");
-            ask("put", SPARE, 0, -300);
-            opened++;
-            for (long k = 0; k < (opened <= OPENED_KINDS ? size : Math.min(1, size)); k++) {
-                ask("get", SPARE, k);
+            if (isNumber(ask("make", SPARE, kind, 1))) {
+                tellKind();
             }
+        }
+    }
+
+    private void tellKind() {
+        long size = Long.parseLong(ask("size", SPARE));
+        ask("collect");
+        for (long k = 0; k < size; k++) {
+            ask("put", SPARE, k, 0x1234567890ABCDEFL);
+            ask("get", SPARE, k);
         }
     }
 
     private void tellKept() {
+        takeEmptiedDesk();
+        ask("row", OWN_KIND, MemoryDesk.INTS);
+        ask("make", SPARE, OWN_KIND, 0);
+        ask("keep", SPARE);
+        ask("number", SPARE);
+    }
+
+    /** What is left on it are the kinds and what is kept. */
+    private void takeEmptiedDesk() {
+        takeDesk();
         for (int s = 0; s < SLOTS; s++) {
             ask("drop", s);
         }
         ask("collect");
-    }
-
-    private void tellHowManyAreKept() {
-        ask("make", SPARE, OWN_KIND, 0);
-        ask("keep", SPARE);
+        ask("memory", 65536);
     }
 }
